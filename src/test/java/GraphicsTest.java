@@ -110,6 +110,9 @@ public final class GraphicsTest {
 
     private static void saving() {
         BENCH.draws("grestore 1 1 moveto grestore", "1,1,1");
+        BENCH.draws("3 5 translate turn 2 scale gsave 7 1 translate turn 3 scale grestore 10 20 moveto", "-37,25,1");
+        BENCH.draws("3 5 translate 2 scale gsave 7 1 translate turn 3 scale grestore 10 20 moveto", "23,45,1");
+        BENCH.draws("turn gsave grestore 1 2 moveto", "-2,1,1");
         BENCH.draws("1 1 moveto gsave 2 2 lineto close 3 scale turn 5 5 translate grestore 4 4 lineto", "1,1,1 4,4,0");
         BENCH.draws("gsave 1 1 translate gsave 2 2 translate grestore 0 0 moveto grestore 7 7 moveto", "7,7,1");
         BENCH.draws("gsave 1 1 translate gsave 2 2 translate grestore 0 0 moveto", "1,1,1");
@@ -157,6 +160,12 @@ public final class GraphicsTest {
         BENCH.paints("1 gray 5 5 moveto 5 5 lineto stroke", "4,4=1 5,4=1 4,5=1 5,5=1");
         BENCH.paints("1 gray 1 width 5 5 moveto close stroke", "");
         BENCH.paints("1 gray 1 width 5 5 moveto 7 5 lineto stroke", "5,4=1 6,4=1 5,5=1 6,5=1");
+        BENCH.paints("1 gray 5 5 moveto 7 5 lineto stroke", "4,4=1 5,4=1 6,4=1 7,4=1 4,5=1 5,5=1 6,5=1 7,5=1");
+        BENCH.paints("1 gray 5 5 moveto 5 6 lineto stroke", "4,4=1 5,4=1 4,5=1 5,5=1 4,6=1 5,6=1");
+        // 8 by 4 dots beside the line, and half of the 12 dots around a point at each end.
+        BENCH.due("width 4, flat", Bench.ran("1 gray 4 width 5 9 moveto 13 9 lineto stroke").count(1), 44);
+        BENCH.due("width 4, upright", Bench.ran("1 gray 4 width 9 5 moveto 9 13 lineto stroke").count(1), 44);
+        BENCH.due("width 4, downright", Bench.ran("1 gray 4 width 9 13 moveto 9 5 lineto stroke").count(1), 44);
         BENCH.paints("1 gray 3 width 5 5 moveto 5 5 lineto stroke", "4,4=1 5,4=1 4,5=1 5,5=1");
         BENCH.due("width 4", Bench.ran("1 gray 4 width 5 5 moveto close stroke").count(1), 12);
         BENCH.due("width 5", Bench.ran("1 gray 5 width 5 5 moveto close stroke").count(1), 16);

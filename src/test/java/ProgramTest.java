@@ -79,6 +79,12 @@ public final class ProgramTest {
         BENCH.due("no '{' open after drop", x.token(3, 0), false);
         BENCH.due("run after drop", x.run(), 0);
         BENCH.due("stack", Bench.stack(x), "");
+        for (int kind : new int[] {0, 0, 0, 2}) {
+            x.token(kind, 0);
+        }
+        Bench.load(x, "{ 5 } 6");
+        BENCH.due("run after a drop of braces", x.run(), 0);
+        BENCH.due("stack after a drop of braces", Bench.stack(x), "p0 6");
     }
 
     private static void runs() {
@@ -96,11 +102,11 @@ public final class ProgramTest {
         BENCH.due("complete stack", Bench.stack(x), "9 p1");
         BENCH.due("again", x.run(), 0);
         BENCH.due("again, from no values", Bench.stack(x), "9 p1");
-        Bench.load(x, "{ } !3 5 !4");
+        Bench.load(x, "{ } !0 5 !1 { } !2 5 !3 { } !4 5 !5 { } !6 5 !7");
         x.run();
-        Bench.load(x, "@3 @4");
+        Bench.load(x, "@0 @1 @2 @3 @4 @5 @6 @7");
         x.run();
-        BENCH.due("variables begin as 0", Bench.stack(x), "0 0");
+        BENCH.due("variables begin as 0", Bench.stack(x), "0 0 0 0 0 0 0 0");
         Bench.load(x, "3 gray 5 width 2 scale turn 1 1 translate 1 1 moveto gsave clip");
         x.run();
         BENCH.due("clip taken away", x.clip(3), 0);

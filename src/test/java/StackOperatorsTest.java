@@ -52,6 +52,8 @@ public final class StackOperatorsTest {
         BENCH.leaves("{ } dup", "p0 p0");
         BENCH.leaves("1 2 exch", "2 1");
         BENCH.leaves("1 { } exch", "p1 1");
+        BENCH.leaves("{ } 1 exch", "1 p0");
+        BENCH.leaves("5 { } { } exch", "5 p3 p1");
         BENCH.leaves("10 20 30 0 index", "10 20 30 30");
         BENCH.leaves("10 20 30 2 index", "10 20 30 10");
         BENCH.leaves("{ } 20 1 index", "p0 20 p0");
