@@ -107,13 +107,13 @@ public final class StackRaster {
     private int tokenCount = 0;
     private int openBraces = 0;
 
-    private int position = 0;
-    private int stepsUsed = 0;
-    private int errorPlace = -1;
+    private int position;
+    private int stepsUsed;
+    private int errorPlace;
 
     private final int[] stackKind = new int[MAX_VALUES];
     private final int[] stackValue = new int[MAX_VALUES];
-    private int stackDepth = 0;
+    private int stackDepth;
     private final int[] variableKind = new int[VARIABLES];
     private final int[] variableValue = new int[VARIABLES];
 
@@ -123,19 +123,19 @@ public final class StackRaster {
     private final int[] begunNow = new int[MAX_PROCEDURES];
     private final int[] begunStride = new int[MAX_PROCEDURES];
     private final int[] begunLast = new int[MAX_PROCEDURES];
-    private int begunCount = 0;
+    private int begunCount;
 
     // Turns and even scales are all there is, so two numbers hold the matrix: x' = a x - b y, y' = b x + a y.
-    private int mapA = 1;
-    private int mapB = 0;
-    private int originX = 0;
-    private int originY = 0;
-    private int gray = 0;
-    private int width = 2;
+    private int mapA;
+    private int mapB;
+    private int originX;
+    private int originY;
+    private int gray;
+    private int width;
     private final int[] pointX = new int[MAX_POINTS];
     private final int[] pointY = new int[MAX_POINTS];
     private final int[] pointMark = new int[MAX_POINTS];
-    private int pointCount = 0;
+    private int pointCount;
     private final int[] clipRow = new int[SIZE];
 
     private final int[] savedNumber = new int[MAX_COPIES * SAVED_NUMBERS];
@@ -143,7 +143,7 @@ public final class StackRaster {
     private final int[] savedY = new int[MAX_COPIES * MAX_POINTS];
     private final int[] savedMark = new int[MAX_COPIES * MAX_POINTS];
     private final int[] savedClip = new int[MAX_COPIES * SIZE];
-    private int savedCount = 0;
+    private int savedCount;
 
     private final int[] dotGray = new int[ALL_DOTS];
 
