@@ -99,6 +99,9 @@ public final class StackRaster {
     private static final int CLOSED = 2;
 
     private static final int SAVED_NUMBERS = 7;
+    private static final int ALL_SAVED_NUMBERS = MAX_COPIES * SAVED_NUMBERS;
+    private static final int ALL_SAVED_POINTS = MAX_COPIES * MAX_POINTS;
+    private static final int ALL_SAVED_ROWS = MAX_COPIES * SIZE;
     private static final int NO_CORNER = -1000;
 
     private final int[] tokenKind = new int[MAX_TOKENS];
@@ -138,11 +141,11 @@ public final class StackRaster {
     private int pointCount;
     private final int[] clipRow = new int[SIZE];
 
-    private final int[] savedNumber = new int[MAX_COPIES * SAVED_NUMBERS];
-    private final int[] savedX = new int[MAX_COPIES * MAX_POINTS];
-    private final int[] savedY = new int[MAX_COPIES * MAX_POINTS];
-    private final int[] savedMark = new int[MAX_COPIES * MAX_POINTS];
-    private final int[] savedClip = new int[MAX_COPIES * SIZE];
+    private final int[] savedNumber = new int[ALL_SAVED_NUMBERS];
+    private final int[] savedX = new int[ALL_SAVED_POINTS];
+    private final int[] savedY = new int[ALL_SAVED_POINTS];
+    private final int[] savedMark = new int[ALL_SAVED_POINTS];
+    private final int[] savedClip = new int[ALL_SAVED_ROWS];
     private int savedCount;
 
     private final int[] dotGray = new int[ALL_DOTS];

@@ -108,7 +108,7 @@ public final class LanguageTest {
     }
 
     private static void arrays(String code) {
-        Pattern field = Pattern.compile("^    private final int\\[\\] \\w+ = new int\\[[A-Z_ *]+\\];$");
+        Pattern field = Pattern.compile("^    private final int\\[\\] \\w+ = new int\\[[A-Z_]+\\];$");
         for (String line : code.split("\n")) {
             if (line.matches(".*\\bnew\\b.*")) {
                 BENCH.due("made in a field's initialiser: " + line.trim(), field.matcher(line).matches(), true);
