@@ -11,6 +11,8 @@ final class Bench {
 
     private int asked = 0;
     private int wrong = 0;
+    private int askedBySentence = 0;
+    private String sentence = "";
 
     /** "@n" puts variable n on, "!n" takes a value off into it; "text*n" in front of a blank stands for n copies. */
     static List<int[]> tokens(String text) {
@@ -65,11 +67,29 @@ final class Bench {
         return raster;
     }
 
+    /** The words of the document that the answers asked from here on are about. */
+    void sentence(String words) {
+        endSentence();
+        sentence = words;
+        askedBySentence = 0;
+    }
+
+    private void endSentence() {
+        if (!sentence.isEmpty() && askedBySentence == 0) {
+            wrong++;
+            System.out.println("no answer is asked for: " + sentence);
+        }
+    }
+
     void due(String what, Object got, Object want) {
         asked++;
+        askedBySentence++;
         if (!got.equals(want)) {
             wrong++;
             System.out.println(what + " answered " + got + ", due is " + want);
+            if (!sentence.isEmpty()) {
+                System.out.println("  the document: " + sentence);
+            }
         }
     }
 
@@ -105,6 +125,40 @@ final class Bench {
         return text.toString();
     }
 
+    /** The rows of the clip that are not whole, as j=row. */
+    static String clip(StackRaster raster) {
+        StringBuilder text = new StringBuilder();
+        for (int j = 0; j < 24; j++) {
+            if (raster.clip(j) != 16777215) {
+                text.append(text.length() > 0 ? " " : "").append(j).append('=').append(raster.clip(j));
+            }
+        }
+        return text.toString();
+    }
+
+    /** All that a token can change and that can be asked for after the run. */
+    static String drawn(StackRaster raster) {
+        return "stack " + stack(raster) + "; path " + path(raster) + "; page " + page(raster) + "; clip " + clip(raster);
+    }
+
+    /** All that can be asked for, but for the tokens. */
+    static String answers(StackRaster raster) {
+        return "place " + raster.place() + "; steps " + raster.steps() + "; " + drawn(raster);
+    }
+
+    /** The last token has the error: it costs a step and leaves all as it is without it. */
+    void refuses(String before, String token, int error) {
+        StackRaster without = ran(before);
+        due(before + ": place()", without.place(), -1);
+        StackRaster raster = new StackRaster();
+        String program = before + " " + token;
+        load(raster, program);
+        due(program + ": run()", raster.run(), error);
+        due(program + ": place()", raster.place(), tokens(before).size());
+        due(program + ": steps()", raster.steps(), without.steps() + 1);
+        due(program + ": what is left", drawn(raster), drawn(without));
+    }
+
     void leaves(String program, String stack) {
         StackRaster raster = new StackRaster();
         load(raster, program);
@@ -136,6 +190,7 @@ final class Bench {
     }
 
     void end() {
+        endSentence();
         System.out.println(asked + " answers asked, " + wrong + " not as due");
         if (wrong != 0) {
             System.exit(1);
