@@ -197,6 +197,10 @@ public final class EdgesOfDrawingTest {
         BENCH.leaves("1 2 moveto 3 4 lineto close 5 6 moveto 7 8 lineto close point", "5 6");
         BENCH.leaves("1 2 moveto 3 4 lineto close 5 6 lineto point", "5 6");
         BENCH.leaves("1 2 3 4 box point", "1 2");
+        // The shortest subpath there is, and the next one.
+        BENCH.leaves("1 2 moveto close 5 6 moveto point", "5 6");
+        BENCH.leaves("1 2 moveto close 5 6 moveto 7 8 lineto close point", "5 6");
+        BENCH.leaves("1 2 moveto close 5 6 moveto close 7 8 moveto close point", "7 8");
         String[] empty = {"", "1 1 moveto newpath", "1 1 moveto fill", "1 1 moveto eofill", "1 1 moveto stroke",
             "gsave 1 1 moveto grestore"};
         for (String before : empty) {
