@@ -56,28 +56,31 @@ public final class ModelTest {
     }
 
     private void load(StackRaster raster, Model model) {
+        cutToFit();
         raster.drop();
         model.tokens.clear();
+        for (int[] token : program) {
+            BENCH.due("token " + token[0] + " " + token[1], raster.token(token[0], token[1]), true);
+            model.tokens.add(token);
+        }
+    }
+
+    /** Of a program that is too long, as much as leaves room for the '}' of each '{' that is then open. */
+    private void cutToFit() {
+        while (program.size() + openBraces() > 100) {
+            program.remove(program.size() - 1);
+        }
+        for (int open = openBraces(); open > 0; open--) {
+            add(3, 0);
+        }
+    }
+
+    private int openBraces() {
         int open = 0;
         for (int[] token : program) {
-            if (raster.token(token[0], token[1])) {
-                model.tokens.add(token);
-                open += token[0] == 2 ? 1 : token[0] == 3 ? -1 : 0;
-            }
+            open += token[0] == 2 ? 1 : token[0] == 3 ? -1 : 0;
         }
-        // A program that was cut off at 100 tokens is begun again, shorter by what its braces need.
-        if (open > 0) {
-            program.clear();
-            program.addAll(model.tokens.subList(0, 100 - 2 * open));
-            int left = 0;
-            for (int[] token : program) {
-                left += token[0] == 2 ? 1 : token[0] == 3 ? -1 : 0;
-            }
-            for (int k = 0; k < left; k++) {
-                program.add(new int[] {3, 0});
-            }
-            load(raster, model);
-        }
+        return open;
     }
 
     private void compareAnswers(String what, StackRaster raster, Model model) {
